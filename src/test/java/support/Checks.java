@@ -1,0 +1,99 @@
+import java.nio.charset.StandardCharsets;
+import java.util.concurrent.Callable;
+
+/** What the tests share: texts to the tape, answers as words, and the count of wrong ones. */
+final class Checks {
+    private static int asked = 0;
+    private static int wrong = 0;
+
+    private Checks() {
+    }
+
+    static void due(String what, Object want, Callable<?> call) {
+        asked++;
+        String got = answer(call);
+        if (!got.equals(String.valueOf(want))) {
+            wrong++;
+            System.out.println(what + " answered " + got + ", due is " + want);
+        }
+    }
+
+    static String answer(Callable<?> call) {
+        try {
+            return String.valueOf(call.call());
+        } catch (Exception e) {
+            return "throws." + e.getClass().getSimpleName();
+        }
+    }
+
+    static void close() {
+        System.out.println(asked + " answers, " + wrong + " wrong");
+        if (wrong != 0 || asked == 0) {
+            System.exit(1);
+        }
+    }
+
+    static void tape(ScarArmy x, byte[] bytes) {
+        for (int at = 0; at < bytes.length; at += 20) {
+            int[] n = new int[5];
+            for (int i = 0; i < 20; i++) {
+                int b = at + i < bytes.length ? bytes[at + i] & 255 : 0;
+                n[i / 4] = n[i / 4] << 8 | b;
+            }
+            x.feed(n[0], n[1], n[2], n[3], n[4]);
+        }
+        x.end(bytes.length);
+    }
+
+    static void tape(ScarArmy x, String text) {
+        tape(x, text.getBytes(StandardCharsets.ISO_8859_1));
+    }
+
+    static int army(ScarArmy x, String text) {
+        tape(x, text);
+        return x.army();
+    }
+
+    static int law(ScarArmy x, String text) {
+        tape(x, text);
+        return x.law();
+    }
+
+    static ScarArmy with(String... texts) {
+        ScarArmy x = new ScarArmy();
+        for (String text : texts) {
+            army(x, text);
+        }
+        return x;
+    }
+
+    /** The first wrong byte of a text of the army. */
+    static int armyFault(ScarArmy x, String text) {
+        tape(x, text);
+        try {
+            x.army();
+        } catch (IllegalArgumentException e) {
+            return x.fault();
+        }
+        return x.fault() == ScarArmy.NONE ? ScarArmy.NONE : -99;
+    }
+
+    static int lawFault(ScarArmy x, String text) {
+        tape(x, text);
+        try {
+            x.law();
+        } catch (IllegalArgumentException e) {
+            return x.fault();
+        }
+        return x.fault() == ScarArmy.NONE ? ScarArmy.NONE : -99;
+    }
+
+    static int enemies(ScarArmy x, int enemy, int... told) {
+        byte[] bytes = new byte[told.length];
+        for (int i = 0; i < told.length; i++) {
+            bytes[i] = (byte) told[i];
+        }
+        tape(x, bytes);
+        return x.enemies(enemy);
+    }
+}
