@@ -1307,24 +1307,23 @@ public final class ScarArmy {
             return set;
         }
 
-        int battlesCutOn(int man) {
+        /** Of all scars that have such a number in one row: those of another row, as bits. */
+        private int bitsWhere(int[] row, int such, int[] other) {
             int set = 0;
             for (int scar = 0; scar < size; scar++) {
-                if (cutOn[scar] == man) {
-                    set |= 1 << battle[scar];
+                if (row[scar] == such) {
+                    set |= 1 << other[scar];
                 }
             }
             return set;
         }
 
+        int battlesCutOn(int man) {
+            return bitsWhere(cutOn, man, battle);
+        }
+
         int battlesBorneBy(int man) {
-            int set = 0;
-            for (int scar = 0; scar < size; scar++) {
-                if (bearer[scar] == man) {
-                    set |= 1 << battle[scar];
-                }
-            }
-            return set;
+            return bitsWhere(bearer, man, battle);
         }
 
         int battlesNotBorneBy(int man) {
@@ -1338,23 +1337,11 @@ public final class ScarArmy {
         }
 
         int menCut(int in) {
-            int men = 0;
-            for (int scar = 0; scar < size; scar++) {
-                if (battle[scar] == in) {
-                    men |= 1 << cutOn[scar];
-                }
-            }
-            return men;
+            return bitsWhere(battle, in, cutOn);
         }
 
         int menBearing(int in) {
-            int men = 0;
-            for (int scar = 0; scar < size; scar++) {
-                if (battle[scar] == in) {
-                    men |= 1 << bearer[scar];
-                }
-            }
-            return men;
+            return bitsWhere(battle, in, bearer);
         }
 
         int menStruck(int at, int by) {

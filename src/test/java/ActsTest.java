@@ -28,15 +28,8 @@ public final class ActsTest {
         Checks.close();
     }
 
-    private static ScarArmy first() {
-        return Checks.with("battle 2 day 10 with 0 1;battle 5 day 12 with 2;battle 3 day 20 with 0;"
-                + "man 100;man 50;man 0;scar 0 of 0 in 0 depth 3 on 0;scar 2 of 1 in 0 depth 2 on 0;"
-                + "scar 3 of 2 in 1 depth 5 on 1;scar 2 of 0 in 2 depth 1 on 2 by 0;scar 0 of 4 in 2 depth 2 on 2;"
-                + "today 25");
-    }
-
     private static void hand() {
-        ScarArmy x = first();
+        ScarArmy x = Checks.first();
         Checks.due("11: the name of who bore it", 1, () -> x.hand(3, 1, 4));
         Checks.due("11: who bears it", 1, () -> x.scar(3, 6));
         Checks.due("11: whom it was cut on", 2, () -> x.scar(3, 5));
@@ -69,7 +62,7 @@ public final class ActsTest {
     }
 
     private static void polish() {
-        ScarArmy x = first();
+        ScarArmy x = Checks.first();
         Checks.army(x, "told 0 7");
         Checks.due("12: told", 8, () -> x.polish(0, 0));
         Checks.due("12: by that trade it was", STATE, () -> x.polish(0, 0));
@@ -86,7 +79,7 @@ public final class ActsTest {
     }
 
     private static void die() {
-        ScarArmy x = first();
+        ScarArmy x = Checks.first();
         x.hand(0, 2, 0);
         Checks.due("13: who goes by it", 2, () -> x.die(0));
         Checks.due("13: alive", 3, () -> x.count(6));
@@ -98,7 +91,7 @@ public final class ActsTest {
     }
 
     private static void widow() {
-        ScarArmy x = first();
+        ScarArmy x = Checks.first();
         x.hand(0, 2, 0);
         x.hand(0, 0, 0);
         x.hand(0, 1, 0);
@@ -123,7 +116,7 @@ public final class ActsTest {
     }
 
     private static void wound() {
-        ScarArmy x = first();
+        ScarArmy x = Checks.first();
         Checks.due("15: its number", 5, () -> x.wound(11, 5, 2, 9, 1));
         int[] due = {11, 5, 2, 9, 0, 1, 1, 9, 36, 0, 0};
         for (int what = 0; what < due.length; what++) {
@@ -153,7 +146,7 @@ public final class ActsTest {
     }
 
     private static void days() {
-        ScarArmy x = first();
+        ScarArmy x = Checks.first();
         x.hand(0, 1, 0);
         Checks.due("16: none got", 0, () -> x.days(4));
         Checks.due("16: today", 29, () -> x.count(5));
@@ -192,7 +185,7 @@ public final class ActsTest {
     }
 
     private static void market() {
-        ScarArmy x = first();
+        ScarArmy x = Checks.first();
         Checks.due("17: none", 0, () -> x.market(0));
         Checks.due("17: an act all the same", 1, () -> x.count(9));
         // from seed 1 the first draw is 16838: scar 3, of 0 to 1, who gains 11, for 1 * 3 + 1
@@ -220,7 +213,7 @@ public final class ActsTest {
     }
 
     private static void trialAndSpan() {
-        ScarArmy x = first();
+        ScarArmy x = Checks.first();
         Checks.due("40: one", 1, () -> x.trial(1, false));
         Checks.due("40: coins", 4, () -> x.trial(1, true));
         Checks.due("40: none", 0, () -> x.trial(0, true));
@@ -258,7 +251,7 @@ public final class ActsTest {
     }
 
     private static void hands() {
-        ScarArmy x = first();
+        ScarArmy x = Checks.first();
         Checks.due("31: who bears it", 0, () -> x.hands(3, 0));
         Checks.due("31: never handed", -1, () -> x.hands(3, 1));
         x.hand(3, 1, 0);
@@ -285,7 +278,7 @@ public final class ActsTest {
     }
 
     private static void after() {
-        ScarArmy x = first();
+        ScarArmy x = Checks.first();
         Checks.due("33: now", 100, () -> x.after(0, 0));
         Checks.due("33: ahead of it", 100, () -> x.after(0, 4));
         Checks.due("33: one pension", 105, () -> x.after(0, 5));
@@ -301,7 +294,7 @@ public final class ActsTest {
     }
 
     private static void seed() {
-        ScarArmy x = first();
+        ScarArmy x = Checks.first();
         Checks.due("44: at first", 1, () -> x.seed(-5));
         Checks.due("44: then", -5, () -> x.seed(1 << 31));
         Checks.due("44: no act", 0, () -> x.count(9));
@@ -313,7 +306,7 @@ public final class ActsTest {
     }
 
     private static void undo() {
-        ScarArmy x = first();
+        ScarArmy x = Checks.first();
         Checks.due("45: none", false, x::undo);
         for (int i = 1; i <= 14; i++) {
             x.days(1);
@@ -350,7 +343,7 @@ public final class ActsTest {
     }
 
     private static void undoOfEach() {
-        ScarArmy x = first();
+        ScarArmy x = Checks.first();
         x.polish(0, 0);
         x.hand(3, 1, 9);
         x.die(1);
@@ -374,7 +367,7 @@ public final class ActsTest {
     }
 
     private static void image() {
-        ScarArmy x = first();
+        ScarArmy x = Checks.first();
         Checks.due("47: none was kept", false, x::back);
         x.hand(3, 1, 4);
         Checks.law(x, "worth 5");
@@ -406,7 +399,7 @@ public final class ActsTest {
     }
 
     private static void throwsChangeNothing() {
-        ScarArmy x = first();
+        ScarArmy x = Checks.first();
         x.hand(3, 1, 4);
         Checks.answer(() -> x.hand(3, 1, 0));
         Checks.answer(() -> x.hand(0, 2, 50));

@@ -25,15 +25,8 @@ public final class AskedTest {
         Checks.close();
     }
 
-    private static ScarArmy first() {
-        return Checks.with("battle 2 day 10 with 0 1;battle 5 day 12 with 2;battle 3 day 20 with 0;"
-                + "man 100;man 50;man 0;scar 0 of 0 in 0 depth 3 on 0;scar 2 of 1 in 0 depth 2 on 0;"
-                + "scar 3 of 2 in 1 depth 5 on 1;scar 2 of 0 in 2 depth 1 on 2 by 0;scar 0 of 4 in 2 depth 2 on 2;"
-                + "today 25");
-    }
-
     private static void battle() {
-        ScarArmy x = first();
+        ScarArmy x = Checks.first();
         Checks.army(x, "battle 0 day 0 with 5;scar 0 of 1 in 2 depth 9 on 1 by 2;scar 5 of 1 in 2 depth 9 on 1");
         int[] due = {3, 20, 1, 6, 7, 6, 2};
         for (int what = 0; what < due.length; what++) {
@@ -54,7 +47,7 @@ public final class AskedTest {
     }
 
     private static void man() {
-        ScarArmy x = first();
+        ScarArmy x = Checks.first();
         int[] due = {1, 0, 100, 11, 6, 5, 1, 1};
         for (int what = 0; what < due.length; what++) {
             int asked = what;
@@ -79,7 +72,7 @@ public final class AskedTest {
     }
 
     private static void scar() {
-        ScarArmy x = first();
+        ScarArmy x = Checks.first();
         Checks.army(x, "told 3 6;scar 9 of 0 in 2 depth 1 on 0;scar 8 of 0 in 2 depth 1 on 0;"
                 + "scar 8 of 0 in 2 depth 2 on 0;scar 8 of 0 in 1 depth 1 on 0;scar 8 of 1 in 2 depth 1 on 0");
         x.polish(3, 2);
@@ -95,7 +88,7 @@ public final class AskedTest {
     }
 
     private static void price() {
-        ScarArmy x = first();
+        ScarArmy x = Checks.first();
         Checks.due("9: price", 20, () -> x.scar(2, 8));
         x.hand(2, 0, 0);
         Checks.due("9: price, handed once", 18, () -> x.scar(2, 8));
@@ -133,7 +126,7 @@ public final class AskedTest {
     }
 
     private static void sergeant() {
-        ScarArmy x = first();
+        ScarArmy x = Checks.first();
         Checks.due("27: the least of two", 0, x::sergeant);
         x.hand(4, 0, 0);
         x.hand(2, 2, 0);
@@ -149,7 +142,7 @@ public final class AskedTest {
     }
 
     private static void turn() {
-        ScarArmy x = first();
+        ScarArmy x = Checks.first();
         Object[][] rows = {
             {5, 3, 0, -1, 0}, {5, 3, 2, -1, 0}, {5, 3, 3, -1, 2}, {5, 3, 5, -1, 2}, {5, 3, 6, -1, 0},
             {5, 3, 0, 0, 0}, {5, 3, 2, 0, 2}, {5, 3, 3, 0, 3}, {5, 3, 4, 2, 1}, {5, 3, 7, 0, 4}, {5, 3, 7, 2, 3},
@@ -167,7 +160,7 @@ public final class AskedTest {
     }
 
     private static void polished() {
-        ScarArmy x = first();
+        ScarArmy x = Checks.first();
         x.polish(0, 1);
         x.polish(3, 1);
         x.polish(3, 0);
@@ -180,7 +173,7 @@ public final class AskedTest {
     }
 
     private static void deadNames() {
-        ScarArmy x = first();
+        ScarArmy x = Checks.first();
         Checks.due("32: nobody", 0, x::mourned);
         x.hand(0, 1, 0);
         Checks.due("13: the man who goes by 0", 1, () -> x.die(0));
@@ -192,7 +185,7 @@ public final class AskedTest {
     }
 
     private static void shared() {
-        ScarArmy x = first();
+        ScarArmy x = Checks.first();
         Checks.due("34: none", 0, () -> x.shared(0, 1));
         Checks.due("34: by truth, not by looks", 0, () -> x.shared(0, 2));
         Checks.army(x, "scar 5 of 5 in 2 depth 1 on 0;scar 5 of 5 in 0 depth 1 on 2 by 1");
@@ -212,13 +205,13 @@ public final class AskedTest {
         }
         Checks.due("36: the most", 4, () -> x.campaign(false));
         Checks.due("36: which", 2 + 4 + 8 + 16, () -> x.campaign(true));
-        ScarArmy y = first();
+        ScarArmy y = Checks.first();
         Checks.due("36: the most of three", 2, () -> y.campaign(false));
         Checks.due("36: the least set of several", 5, () -> y.campaign(true));
     }
 
     private static void voidsAndLies() {
-        ScarArmy x = first();
+        ScarArmy x = Checks.first();
         Checks.due("37: none without a law", 0, x::voids);
         Checks.due("38: what does not fit", 16, x::lies);
         Checks.law(x, "void if not own;void if depth > 4");
@@ -232,7 +225,7 @@ public final class AskedTest {
     }
 
     private static void ledAndLog() {
-        ScarArmy x = first();
+        ScarArmy x = Checks.first();
         Checks.due("43: nothing yet", -1, () -> x.log(0, 0));
         x.hand(2, 0, 7);
         x.days(1);
@@ -268,7 +261,7 @@ public final class AskedTest {
     }
 
     private static void count() {
-        ScarArmy x = first();
+        ScarArmy x = Checks.first();
         x.die(1);
         x.hand(0, 2, 0);
         int[] due = {3, 3, 5, 1, -1, 25, 5, 150, 1, 2, 13};

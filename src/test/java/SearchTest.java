@@ -22,15 +22,8 @@ public final class SearchTest {
         Checks.close();
     }
 
-    private static ScarArmy first() {
-        return Checks.with("battle 2 day 10 with 0 1;battle 5 day 12 with 2;battle 3 day 20 with 0;"
-                + "man 100;man 50;man 0;scar 0 of 0 in 0 depth 3 on 0;scar 2 of 1 in 0 depth 2 on 0;"
-                + "scar 3 of 2 in 1 depth 5 on 1;scar 2 of 0 in 2 depth 1 on 2 by 0;scar 0 of 4 in 2 depth 2 on 2;"
-                + "today 25");
-    }
-
     private static void his() {
-        ScarArmy x = first();
+        ScarArmy x = Checks.first();
         Object[][] rows = {{0, true}, {3, true}, {10, false}, {5, false}, {9, true}, {12, true}, {17, false},
             {-32, true}, {32 + 3, true}, {31, false}};
         for (Object[] r : rows) {
@@ -48,7 +41,7 @@ public final class SearchTest {
     }
 
     private static void largest() {
-        ScarArmy x = first();
+        ScarArmy x = Checks.first();
         Checks.due("20: how many", 2, () -> x.largest(0, false));
         Checks.due("20: the least of two sets", 3, () -> x.largest(0, true));
         Checks.due("20: one alone", 4, () -> x.largest(1, true));
@@ -67,7 +60,7 @@ public final class SearchTest {
     }
 
     private static void betrays() {
-        ScarArmy x = first();
+        ScarArmy x = Checks.first();
         Checks.due("21: each of two", 10, () -> x.betrays(0));
         Checks.due("21: all are his", 0, () -> x.betrays(1));
         Checks.law(x, "void if place < 1");
@@ -105,7 +98,7 @@ public final class SearchTest {
     }
 
     private static void fewest() {
-        ScarArmy x = first();
+        ScarArmy x = Checks.first();
         Checks.due("22: two", 3, x::fewest);
         x.hand(2, 0, 0);
         Checks.due("22: one", 1, x::fewest);
@@ -122,7 +115,7 @@ public final class SearchTest {
     }
 
     private static void least() {
-        ScarArmy x = first();
+        ScarArmy x = Checks.first();
         Object[][] rows = {{1, 7, 8, 2}, {1, 5, 0, 0}, {1, 0, 0, 0}, {1, 6, 4, 8}, {1, 8, 12, 1}, {1, 100, -1, -1},
             {1, 13, 32, 27}, {1, 14, -1, -1}, {0, 7, 8, 16}, {0, 9, 20, 4}, {2, 13, 44, 15}, {2, 999, -1, -1}};
         for (Object[] r : rows) {
@@ -140,7 +133,7 @@ public final class SearchTest {
     }
 
     private static void leastAsIfBorne() {
-        ScarArmy x = first();
+        ScarArmy x = Checks.first();
         Checks.law(x, "worth 10 if own;worth 4 if bearer > 1;worth 1");
         // to man 2: scar 3 is his own (15), all else 5; now scar 3 is worth 1 and costs 4
         Checks.due("23: worth as if borne", 4, () -> x.least(2, 30, false));
@@ -152,7 +145,7 @@ public final class SearchTest {
     }
 
     private static void gainsAndBuyer() {
-        ScarArmy x = first();
+        ScarArmy x = Checks.first();
         Object[][] rows = {{1, 1, 12}, {1, 0, 3}, {0, 2, 15}, {0, 0, 0}, {2, 2, 5}, {1, 3, 11}, {1, 2, 0}};
         for (Object[] r : rows) {
             Checks.due("24: gains(" + r[0] + ", " + r[1] + ")", r[2], () -> x.gains((int) r[0], (int) r[1]));
@@ -179,7 +172,7 @@ public final class SearchTest {
     }
 
     private static void enemies() {
-        ScarArmy x = first();
+        ScarArmy x = Checks.first();
         Checks.due("26: both mean one", 1, () -> Checks.enemies(x, -1, 0, 0, 2, 0));
         Checks.due("26: whom the second means", 1, () -> Checks.enemies(x, 1, 0, 0, 2, 0));
         Checks.due("26: two", 2, () -> Checks.enemies(x, -1, 0, 0, 0, 4));
@@ -200,7 +193,7 @@ public final class SearchTest {
     }
 
     private static void wrongEnemies() {
-        ScarArmy x = first();
+        ScarArmy x = Checks.first();
         Checks.due("26: no such enemy", WRONG, () -> Checks.enemies(x, 2, 0, 0, 2, 0));
         Checks.due("26: no such enemy", WRONG, () -> Checks.enemies(x, -2, 0, 0, 2, 0));
         Checks.due("26: used up", false, () -> x.end(1));
@@ -219,7 +212,7 @@ public final class SearchTest {
     }
 
     private static void bargain() {
-        ScarArmy x = first();
+        ScarArmy x = Checks.first();
         Checks.due("30: which", 3, () -> x.bargain(false));
         Checks.due("30: how much", 29, () -> x.bargain(true));
         ScarArmy y = Checks.with("battle 0 day 0 with 0;man 0;man 0;scar 0 of 0 in 0 depth 5 on 0;"

@@ -67,6 +67,14 @@ final class Checks {
         return x;
     }
 
+    /** The army that most tests begin with: three battles, three men, five scars. */
+    static ScarArmy first() {
+        return with("battle 2 day 10 with 0 1;battle 5 day 12 with 2;battle 3 day 20 with 0;"
+                + "man 100;man 50;man 0;scar 0 of 0 in 0 depth 3 on 0;scar 2 of 1 in 0 depth 2 on 0;"
+                + "scar 3 of 2 in 1 depth 5 on 1;scar 2 of 0 in 2 depth 1 on 2 by 0;scar 0 of 4 in 2 depth 2 on 2;"
+                + "today 25");
+    }
+
     /** The first wrong byte of a text of the army. */
     static int armyFault(ScarArmy x, String text) {
         tape(x, text);
