@@ -1,10 +1,5 @@
 /** Promises 11 to 17, 31, 33, 40, 41, 44 to 47: acts, trials of them, and the way back. */
 public final class ActsTest {
-    private static final String OUT = "throws.IndexOutOfBoundsException";
-    private static final String WRONG = "throws.IllegalArgumentException";
-    private static final String STATE = "throws.IllegalStateException";
-    private static final String FULL = "throws.UnsupportedOperationException";
-
     private ActsTest() {
     }
 
@@ -39,21 +34,21 @@ public final class ActsTest {
         Checks.due("11: coins", 46, () -> x.man(1, 2));
         Checks.due("11: all one has", 0, () -> x.hand(0, 1, 46));
         Checks.due("11: coins", 0, () -> x.man(1, 2));
-        Checks.due("11: has not so much", STATE, () -> x.hand(4, 1, 1));
+        Checks.due("11: has not so much", Checks.STATE, () -> x.hand(4, 1, 1));
         Checks.due("11: for nothing", 0, () -> x.hand(0, 0, 0));
-        Checks.due("11: both are one", WRONG, () -> x.hand(0, 0, 0));
-        Checks.due("11: no pay", WRONG, () -> x.hand(0, 1, -1));
-        Checks.due("11: no pay", WRONG, () -> x.hand(0, 1, 10000));
-        Checks.due("11: has not so much", STATE, () -> x.hand(0, 1, 9999));
-        Checks.due("11: no scar, told first", OUT, () -> x.hand(5, 0, -1));
-        Checks.due("11: no scar", OUT, () -> x.hand(-1, 0, 0));
-        Checks.due("11: no man, told first", OUT, () -> x.hand(0, 3, -1));
-        Checks.due("11: no man", OUT, () -> x.hand(0, -1, 0));
+        Checks.due("11: both are one", Checks.WRONG, () -> x.hand(0, 0, 0));
+        Checks.due("11: no pay", Checks.WRONG, () -> x.hand(0, 1, -1));
+        Checks.due("11: no pay", Checks.WRONG, () -> x.hand(0, 1, 10000));
+        Checks.due("11: has not so much", Checks.STATE, () -> x.hand(0, 1, 9999));
+        Checks.due("11: no scar, told first", Checks.OUT, () -> x.hand(5, 0, -1));
+        Checks.due("11: no scar", Checks.OUT, () -> x.hand(-1, 0, 0));
+        Checks.due("11: no man, told first", Checks.OUT, () -> x.hand(0, 3, -1));
+        Checks.due("11: no man", Checks.OUT, () -> x.hand(0, -1, 0));
         x.die(x.man(2, 1));
-        Checks.due("11: the other one is dead", STATE, () -> x.hand(0, 2, 0));
-        Checks.due("11: who bears it is dead", STATE, () -> x.hand(4, 0, 0));
-        Checks.due("11: both are one, told first", WRONG, () -> x.hand(4, 2, 0));
-        Checks.due("11: no pay, told first", WRONG, () -> x.hand(0, 2, 10000));
+        Checks.due("11: the other one is dead", Checks.STATE, () -> x.hand(0, 2, 0));
+        Checks.due("11: who bears it is dead", Checks.STATE, () -> x.hand(4, 0, 0));
+        Checks.due("11: both are one, told first", Checks.WRONG, () -> x.hand(4, 2, 0));
+        Checks.due("11: no pay, told first", Checks.WRONG, () -> x.hand(0, 2, 10000));
         ScarArmy y = Checks.with("battle 0 day 0 with 0;man 9990;man 9999;scar 0 of 0 in 0 depth 1 on 0");
         Checks.due("11: more than fits", 1, () -> y.hand(0, 1, 9999));
         Checks.due("11: the rest is lost", 9999, () -> y.man(0, 2));
@@ -65,16 +60,16 @@ public final class ActsTest {
         ScarArmy x = Checks.first();
         Checks.army(x, "told 0 7");
         Checks.due("12: told", 8, () -> x.polish(0, 0));
-        Checks.due("12: by that trade it was", STATE, () -> x.polish(0, 0));
+        Checks.due("12: by that trade it was", Checks.STATE, () -> x.polish(0, 0));
         Checks.due("12: told", 9, () -> x.polish(0, 2));
         Checks.due("12: 9 at most", 9, () -> x.polish(0, 1));
-        Checks.due("12: by that trade it was, all the same", STATE, () -> x.polish(0, 1));
+        Checks.due("12: by that trade it was, all the same", Checks.STATE, () -> x.polish(0, 1));
         Checks.due("12: another scar", 1, () -> x.polish(1, 0));
-        Checks.due("12: no trade", OUT, () -> x.polish(0, 3));
-        Checks.due("12: no trade", OUT, () -> x.polish(0, -1));
-        Checks.due("12: no scar", OUT, () -> x.polish(5, 0));
+        Checks.due("12: no trade", Checks.OUT, () -> x.polish(0, 3));
+        Checks.due("12: no trade", Checks.OUT, () -> x.polish(0, -1));
+        Checks.due("12: no scar", Checks.OUT, () -> x.polish(5, 0));
         Checks.army(x, "dead 0;told 0 2");
-        Checks.due("12: a text does not undo trades", STATE, () -> x.polish(0, 1));
+        Checks.due("12: a text does not undo trades", Checks.STATE, () -> x.polish(0, 1));
         Checks.due("12: a dead one's", 1, () -> x.polish(3, 1));
     }
 
@@ -83,10 +78,10 @@ public final class ActsTest {
         x.hand(0, 2, 0);
         Checks.due("13: who goes by it", 2, () -> x.die(0));
         Checks.due("13: alive", 3, () -> x.count(6));
-        Checks.due("13: dead already", STATE, () -> x.die(0));
+        Checks.due("13: dead already", Checks.STATE, () -> x.die(0));
         Checks.due("13: the other one", 0, () -> x.die(2));
-        Checks.due("13: no name", OUT, () -> x.die(3));
-        Checks.due("13: no name", OUT, () -> x.die(-1));
+        Checks.due("13: no name", Checks.OUT, () -> x.die(3));
+        Checks.due("13: no name", Checks.OUT, () -> x.die(-1));
         Checks.due("13: coins stay", 150, () -> x.count(7));
     }
 
@@ -103,13 +98,13 @@ public final class ActsTest {
         Checks.due("14: bears them", 2 + 8 + 16, () -> x.man(2, 3));
         Checks.due("14: not in the log", 3, () -> x.count(8));
         Checks.due("14: none are left", 0, () -> x.widow(0, 2));
-        Checks.due("14: both are one", WRONG, () -> x.widow(0, 0));
-        Checks.due("14: alive", STATE, () -> x.widow(1, 2));
+        Checks.due("14: both are one", Checks.WRONG, () -> x.widow(0, 0));
+        Checks.due("14: alive", Checks.STATE, () -> x.widow(1, 2));
         x.die(x.man(1, 1));
-        Checks.due("14: both are dead", STATE, () -> x.widow(0, 1));
-        Checks.due("14: alive, and the other one dead", STATE, () -> x.widow(2, 1));
-        Checks.due("14: no man, told first", OUT, () -> x.widow(3, 3));
-        Checks.due("14: no man", OUT, () -> x.widow(0, -1));
+        Checks.due("14: both are dead", Checks.STATE, () -> x.widow(0, 1));
+        Checks.due("14: alive, and the other one dead", Checks.STATE, () -> x.widow(2, 1));
+        Checks.due("14: no man, told first", Checks.OUT, () -> x.widow(3, 3));
+        Checks.due("14: no man", Checks.OUT, () -> x.widow(0, -1));
         ScarArmy y = Checks.with("man 9000;man 2000;dead 1");
         y.widow(1, 0);
         Checks.due("14: 9999 at most", 9999, () -> y.count(7));
@@ -126,18 +121,18 @@ public final class ActsTest {
         int[][] none = {{12, 0, 0, 1, 0}, {-1, 0, 0, 1, 0}, {0, 6, 0, 1, 0}, {0, -1, 0, 1, 0}, {0, 0, 3, 1, 0},
             {0, 0, -1, 1, 0}, {0, 0, 0, 1, 3}, {0, 0, 0, 1, -1}, {12, 0, 0, 0, 0}, {0, 0, 0, 10, 3}};
         for (int[] n : none) {
-            Checks.due("15: none", OUT, () -> x.wound(n[0], n[1], n[2], n[3], n[4]));
+            Checks.due("15: none", Checks.OUT, () -> x.wound(n[0], n[1], n[2], n[3], n[4]));
         }
-        Checks.due("15: no depth", WRONG, () -> x.wound(0, 0, 0, 0, 0));
-        Checks.due("15: no depth", WRONG, () -> x.wound(0, 0, 0, 10, 0));
+        Checks.due("15: no depth", Checks.WRONG, () -> x.wound(0, 0, 0, 0, 0));
+        Checks.due("15: no depth", Checks.WRONG, () -> x.wound(0, 0, 0, 10, 0));
         x.die(2);
-        Checks.due("15: dead", STATE, () -> x.wound(0, 0, 0, 1, 2));
-        Checks.due("15: no depth, told first", WRONG, () -> x.wound(0, 0, 0, 0, 2));
+        Checks.due("15: dead", Checks.STATE, () -> x.wound(0, 0, 0, 1, 2));
+        Checks.due("15: no depth, told first", Checks.WRONG, () -> x.wound(0, 0, 0, 0, 2));
         for (int n = 6; n < 24; n++) {
             Checks.due("15: scar " + n, n, () -> x.wound(0, 0, 0, 1, 0));
         }
-        Checks.due("15: there are 24", FULL, () -> x.wound(0, 0, 0, 1, 0));
-        Checks.due("15: dead, told first", STATE, () -> x.wound(0, 0, 0, 1, 2));
+        Checks.due("15: there are 24", Checks.FULL, () -> x.wound(0, 0, 0, 1, 0));
+        Checks.due("15: dead, told first", Checks.STATE, () -> x.wound(0, 0, 0, 1, 2));
         x.polish(23, 0);
         x.undo();
         x.undo();
@@ -159,9 +154,9 @@ public final class ActsTest {
         x.die(2);
         Checks.due("16: two pensions, not of the dead", 20, () -> x.days(31));
         Checks.due("16: today", 90, () -> x.count(5));
-        Checks.due("16: none", WRONG, () -> x.days(0));
-        Checks.due("16: none", WRONG, () -> x.days(401));
-        Checks.due("16: none", WRONG, () -> x.days(-1));
+        Checks.due("16: none", Checks.WRONG, () -> x.days(0));
+        Checks.due("16: none", Checks.WRONG, () -> x.days(401));
+        Checks.due("16: none", Checks.WRONG, () -> x.days(-1));
         Checks.law(x, "worth 1 if days > 100");
         // day 120: battles of day 10 and 12 are over 100 days ago, that of day 20 is not
         Checks.due("16: worth of that day", 3, () -> x.days(30));
@@ -197,8 +192,8 @@ public final class ActsTest {
         Checks.due("17: the seed went on", 1103527590, () -> x.seed(1103527590));
         Checks.due("17: undone", true, x::undo);
         Checks.due("17: the seed, too", 1, () -> x.seed(1));
-        Checks.due("17: none", WRONG, () -> x.market(-1));
-        Checks.due("17: none", WRONG, () -> x.market(31));
+        Checks.due("17: none", Checks.WRONG, () -> x.market(-1));
+        Checks.due("17: none", Checks.WRONG, () -> x.market(31));
         ScarArmy dead = Checks.with("battle 0 day 0 with 0;man 9;man 9;scar 0 of 0 in 0 depth 1 on 0;dead 0");
         Checks.due("17: not a dead one's", 0, () -> dead.market(30));
         ScarArmy alone = Checks.with("battle 0 day 0 with 0;man 9;scar 0 of 0 in 0 depth 1 on 0");
@@ -228,10 +223,10 @@ public final class ActsTest {
                 () -> x.span(30, true) >= Math.max(sold, other));
         Checks.due("41: nothing stays", 6, () -> x.seed(6));
         Checks.due("41: none", 0, () -> x.span(0, true));
-        Checks.due("40: no number", WRONG, () -> x.trial(31, true));
-        Checks.due("40: no number", WRONG, () -> x.trial(-1, false));
-        Checks.due("41: no number", WRONG, () -> x.span(31, true));
-        Checks.due("41: no number", WRONG, () -> x.span(-1, false));
+        Checks.due("40: no number", Checks.WRONG, () -> x.trial(31, true));
+        Checks.due("40: no number", Checks.WRONG, () -> x.trial(-1, false));
+        Checks.due("41: no number", Checks.WRONG, () -> x.span(31, true));
+        Checks.due("41: no number", Checks.WRONG, () -> x.span(-1, false));
         spanOfOneSale();
     }
 
@@ -267,8 +262,8 @@ public final class ActsTest {
         Checks.due("31: who bears it", 0, () -> x.hands(3, 0));
         Checks.due("31: by the log", 1, () -> x.hands(3, 1));
         Checks.due("31: far beyond", -1, () -> x.hands(3, Integer.MAX_VALUE));
-        Checks.due("31: no k", WRONG, () -> x.hands(3, -1));
-        Checks.due("31: no scar, told first", OUT, () -> x.hands(5, -1));
+        Checks.due("31: no k", Checks.WRONG, () -> x.hands(3, -1));
+        Checks.due("31: no scar, told first", Checks.OUT, () -> x.hands(5, -1));
         for (int i = 0; i < 60; i++) {
             x.hand(1, i % 2 == 0 ? 1 : 0, 0);
         }
@@ -286,9 +281,9 @@ public final class ActsTest {
         Checks.due("33: nothing stays", 25, () -> x.count(5));
         Checks.due("33: nothing stays", 150, () -> x.count(7));
         Checks.due("33: no act", 0, () -> x.count(9));
-        Checks.due("33: no number", WRONG, () -> x.after(0, -1));
-        Checks.due("33: no number", WRONG, () -> x.after(0, 401));
-        Checks.due("33: no man, told first", OUT, () -> x.after(3, 401));
+        Checks.due("33: no number", Checks.WRONG, () -> x.after(0, -1));
+        Checks.due("33: no number", Checks.WRONG, () -> x.after(0, 401));
+        Checks.due("33: no man, told first", Checks.OUT, () -> x.after(3, 401));
         x.die(0);
         Checks.due("33: the dead get none", 100, () -> x.after(0, 400));
     }

@@ -1,9 +1,5 @@
 /** Promises 7 to 10, 18, 27 to 29, 32, 34 to 39, 42, 43, 48: what is asked of what is. */
 public final class AskedTest {
-    private static final String OUT = "throws.IndexOutOfBoundsException";
-    private static final String WRONG = "throws.IllegalArgumentException";
-    private static final String NO_SUCH = "throws.NoSuchElementException";
-
     private AskedTest() {
     }
 
@@ -40,10 +36,10 @@ public final class AskedTest {
         Checks.due("7: was there, not dead", 0, () -> x.battle(2, 5));
         Checks.due("7: at it, dead or not", 6, () -> x.battle(2, 3));
         Checks.due("7: bears, dead or not", 7, () -> x.battle(2, 4));
-        Checks.due("7: another what", NO_SUCH, () -> x.battle(0, 7));
-        Checks.due("7: another what", NO_SUCH, () -> x.battle(0, -1));
-        Checks.due("7: no battle, told first", OUT, () -> x.battle(4, 7));
-        Checks.due("7: no battle", OUT, () -> x.battle(-1, 0));
+        Checks.due("7: another what", Checks.NO_SUCH, () -> x.battle(0, 7));
+        Checks.due("7: another what", Checks.NO_SUCH, () -> x.battle(0, -1));
+        Checks.due("7: no battle, told first", Checks.OUT, () -> x.battle(4, 7));
+        Checks.due("7: no battle", Checks.OUT, () -> x.battle(-1, 0));
     }
 
     private static void man() {
@@ -65,10 +61,10 @@ public final class AskedTest {
         Checks.due("8: ears count whatever the worth", 10, () -> x.man(1, 4));
         x.die(x.man(0, 1));
         Checks.due("8: dead", 0, () -> x.man(0, 0));
-        Checks.due("8: another what", NO_SUCH, () -> x.man(0, 8));
-        Checks.due("8: another what", NO_SUCH, () -> x.man(0, -1));
-        Checks.due("8: no man, told first", OUT, () -> x.man(3, 8));
-        Checks.due("8: no man", OUT, () -> x.man(-1, 0));
+        Checks.due("8: another what", Checks.NO_SUCH, () -> x.man(0, 8));
+        Checks.due("8: another what", Checks.NO_SUCH, () -> x.man(0, -1));
+        Checks.due("8: no man, told first", Checks.OUT, () -> x.man(3, 8));
+        Checks.due("8: no man", Checks.OUT, () -> x.man(-1, 0));
     }
 
     private static void scar() {
@@ -81,10 +77,10 @@ public final class AskedTest {
             int asked = what;
             Checks.due("9: scar(3, " + what + ")", due[what], () -> x.scar(3, asked));
         }
-        Checks.due("9: another what", NO_SUCH, () -> x.scar(0, 11));
-        Checks.due("9: another what", NO_SUCH, () -> x.scar(0, -1));
-        Checks.due("9: no scar, told first", OUT, () -> x.scar(10, 11));
-        Checks.due("9: no scar", OUT, () -> x.scar(-1, 0));
+        Checks.due("9: another what", Checks.NO_SUCH, () -> x.scar(0, 11));
+        Checks.due("9: another what", Checks.NO_SUCH, () -> x.scar(0, -1));
+        Checks.due("9: no scar, told first", Checks.OUT, () -> x.scar(10, 11));
+        Checks.due("9: no scar", Checks.OUT, () -> x.scar(-1, 0));
     }
 
     private static void price() {
@@ -121,8 +117,8 @@ public final class AskedTest {
         Checks.due("18: and one of two", 3, x::swaps);
         x.hand(0, 0, 0);
         Checks.due("18: one of two left, and that of two", 2, x::swaps);
-        Checks.due("10: no such name", OUT, () -> x.who(5));
-        Checks.due("10: no such name", OUT, () -> x.who(-1));
+        Checks.due("10: no such name", Checks.OUT, () -> x.who(5));
+        Checks.due("10: no such name", Checks.OUT, () -> x.who(-1));
     }
 
     private static void sergeant() {
@@ -148,8 +144,8 @@ public final class AskedTest {
             {5, 3, 0, 0, 0}, {5, 3, 2, 0, 2}, {5, 3, 3, 0, 3}, {5, 3, 4, 2, 1}, {5, 3, 7, 0, 4}, {5, 3, 7, 2, 3},
             {5, 3, 7, 1, 0}, {0, 3, 7, -1, -1}, {0, 3, 7, 1, 0}, {-8, 3, 7, -1, -1}, {-1, 1, 9999, -1, 0},
             {7, 30, 9999, 0, 3339}, {7, 30, 9999, 1, 3330}, {7, 30, 9999, 2, 3330}, {2, 30, 9999, 1, 9999},
-            {5, 0, 0, -1, WRONG}, {5, 31, 0, -1, WRONG}, {5, 1, -1, -1, WRONG}, {5, 1, 10000, 0, WRONG},
-            {5, 0, 0, 3, OUT}, {5, 1, 0, -2, OUT}, {5, 1, 0, 3, OUT}, {0, 31, 0, 0, WRONG},
+            {5, 0, 0, -1, Checks.WRONG}, {5, 31, 0, -1, Checks.WRONG}, {5, 1, -1, -1, Checks.WRONG}, {5, 1, 10000, 0, Checks.WRONG},
+            {5, 0, 0, 3, Checks.OUT}, {5, 1, 0, -2, Checks.OUT}, {5, 1, 0, 3, Checks.OUT}, {0, 31, 0, 0, Checks.WRONG},
         };
         for (Object[] r : rows) {
             Checks.due("28: turn(" + r[0] + ", " + r[1] + ", " + r[2] + ", " + r[3] + ")", r[4],
@@ -167,8 +163,8 @@ public final class AskedTest {
         Checks.due("29: by 0", 8, () -> x.polished(0));
         Checks.due("29: by 1", 9, () -> x.polished(1));
         Checks.due("29: by 2", 0, () -> x.polished(2));
-        Checks.due("29: no trade", OUT, () -> x.polished(3));
-        Checks.due("29: no trade", OUT, () -> x.polished(-1));
+        Checks.due("29: no trade", Checks.OUT, () -> x.polished(3));
+        Checks.due("29: no trade", Checks.OUT, () -> x.polished(-1));
         Checks.due("9: trades", 3, () -> x.scar(3, 9));
     }
 
@@ -190,9 +186,9 @@ public final class AskedTest {
         Checks.due("34: by truth, not by looks", 0, () -> x.shared(0, 2));
         Checks.army(x, "scar 5 of 5 in 2 depth 1 on 0;scar 5 of 5 in 0 depth 1 on 2 by 1");
         Checks.due("34: two", 5, () -> x.shared(2, 0));
-        Checks.due("34: both are one", WRONG, () -> x.shared(1, 1));
-        Checks.due("34: no man, told first", OUT, () -> x.shared(3, 3));
-        Checks.due("34: no man", OUT, () -> x.shared(0, -1));
+        Checks.due("34: both are one", Checks.WRONG, () -> x.shared(1, 1));
+        Checks.due("34: no man, told first", Checks.OUT, () -> x.shared(3, 3));
+        Checks.due("34: no man", Checks.OUT, () -> x.shared(0, -1));
     }
 
     private static void routes() {
@@ -241,13 +237,13 @@ public final class AskedTest {
         }
         Checks.due("43: none so many ago", -1, () -> x.log(-1, 0));
         Checks.due("43: none so many ago", -1, () -> x.log(Integer.MIN_VALUE, 4));
-        Checks.due("43: another what", NO_SUCH, () -> x.log(0, 5));
-        Checks.due("43: another what, without a row", NO_SUCH, () -> x.log(9, -1));
+        Checks.due("43: another what", Checks.NO_SUCH, () -> x.log(0, 5));
+        Checks.due("43: another what, without a row", Checks.NO_SUCH, () -> x.log(9, -1));
         Checks.due("42: the town", 5, () -> x.led(2, false));
         Checks.due("42: how often", 2, () -> x.led(2, true));
         Checks.due("42: never", 0, () -> x.led(4, true));
-        Checks.due("42: no scar", OUT, () -> x.led(5, true));
-        Checks.due("42: no scar", OUT, () -> x.led(-1, false));
+        Checks.due("42: no scar", Checks.OUT, () -> x.led(5, true));
+        Checks.due("42: no scar", Checks.OUT, () -> x.led(-1, false));
         for (int i = 0; i < 60; i++) {
             x.hand(0, i % 2 == 0 ? 0 : 1, i % 2);
         }

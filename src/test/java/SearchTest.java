@@ -1,9 +1,5 @@
 /** Promises 19 to 26 and 30: what is found among many sets. */
 public final class SearchTest {
-    private static final String OUT = "throws.IndexOutOfBoundsException";
-    private static final String WRONG = "throws.IllegalArgumentException";
-    private static final String STATE = "throws.IllegalStateException";
-
     private SearchTest() {
     }
 
@@ -49,8 +45,8 @@ public final class SearchTest {
         Checks.due("20: without void ones", 2, () -> x.largest(0, true));
         Checks.due("20: none", 0, () -> x.largest(2, true));
         Checks.due("20: none", 0, () -> x.largest(2, false));
-        Checks.due("20: no man", OUT, () -> x.largest(3, true));
-        Checks.due("20: no man", OUT, () -> x.largest(-1, false));
+        Checks.due("20: no man", Checks.OUT, () -> x.largest(3, true));
+        Checks.due("20: no man", Checks.OUT, () -> x.largest(-1, false));
         ScarArmy y = Checks.with("battle 0 day 0 with 0;battle 9 day 0 with 0;man 0;scar 0 of 0 in 1 depth 1 on 0;"
                 + "scar 0 of 0 in 0 depth 1 on 0;scar 1 of 0 in 0 depth 1 on 0;scar 2 of 0 in 0 depth 1 on 0;"
                 + "scar 3 of 0 in 1 depth 1 on 0;scar 4 of 0 in 1 depth 1 on 0");
@@ -68,8 +64,8 @@ public final class SearchTest {
         Checks.due("21: the one that is void", 16, () -> x.betrays(2));
         Checks.law(x, "void if depth < 2");
         Checks.due("21: one of two, the void one", 8, () -> x.betrays(0));
-        Checks.due("21: no man", OUT, () -> x.betrays(3));
-        Checks.due("21: no man", OUT, () -> x.betrays(-1));
+        Checks.due("21: no man", Checks.OUT, () -> x.betrays(3));
+        Checks.due("21: no man", Checks.OUT, () -> x.betrays(-1));
     }
 
     private static void moreThanTwelve() {
@@ -90,7 +86,7 @@ public final class SearchTest {
         Checks.due("23: 13", -3, () -> x.least(1, 11, false));
         Checks.due("23: 13", -3, () -> x.least(1, 0, true));
         Checks.due("23: of those of others", 0, () -> x.least(0, 13, false));
-        Checks.due("23: no looks, told first", WRONG, () -> x.least(1, 1000, true));
+        Checks.due("23: no looks, told first", Checks.WRONG, () -> x.least(1, 1000, true));
         x.die(0);
         Checks.due("23: not of the dead", -1, () -> x.least(1, 1, false));
         Checks.due("20: dead or not", -3, () -> x.largest(0, false));
@@ -122,13 +118,13 @@ public final class SearchTest {
             Checks.due("23: pay of " + r[0] + " for " + r[1], r[2], () -> x.least((int) r[0], (int) r[1], false));
             Checks.due("23: which of " + r[0] + " for " + r[1], r[3], () -> x.least((int) r[0], (int) r[1], true));
         }
-        Checks.due("23: no looks", WRONG, () -> x.least(0, -1, true));
-        Checks.due("23: no looks", WRONG, () -> x.least(0, 1000, true));
+        Checks.due("23: no looks", Checks.WRONG, () -> x.least(0, -1, true));
+        Checks.due("23: no looks", Checks.WRONG, () -> x.least(0, 1000, true));
         x.die(1);
-        Checks.due("23: dead", STATE, () -> x.least(1, 5, true));
-        Checks.due("23: no looks, told first", WRONG, () -> x.least(1, 1000, true));
-        Checks.due("23: no man, told first", OUT, () -> x.least(3, 1000, true));
-        Checks.due("23: no man", OUT, () -> x.least(-1, 5, true));
+        Checks.due("23: dead", Checks.STATE, () -> x.least(1, 5, true));
+        Checks.due("23: no looks, told first", Checks.WRONG, () -> x.least(1, 1000, true));
+        Checks.due("23: no man, told first", Checks.OUT, () -> x.least(3, 1000, true));
+        Checks.due("23: no man", Checks.OUT, () -> x.least(-1, 5, true));
         Checks.due("23: none of the dead one", -1, () -> x.least(0, 9, false));
     }
 
@@ -165,10 +161,10 @@ public final class SearchTest {
         Checks.law(x, "void");
         Checks.due("24: void, but the pair", 10, () -> x.gains(0, 2));
         Checks.due("24: void", 0, () -> x.gains(0, 4));
-        Checks.due("24: no man", OUT, () -> x.gains(3, 0));
-        Checks.due("24: no scar", OUT, () -> x.gains(0, 5));
-        Checks.due("25: no scar", OUT, () -> x.buyer(5));
-        Checks.due("25: no scar", OUT, () -> x.buyer(-1));
+        Checks.due("24: no man", Checks.OUT, () -> x.gains(3, 0));
+        Checks.due("24: no scar", Checks.OUT, () -> x.gains(0, 5));
+        Checks.due("25: no scar", Checks.OUT, () -> x.buyer(5));
+        Checks.due("25: no scar", Checks.OUT, () -> x.buyer(-1));
     }
 
     private static void enemies() {
@@ -194,16 +190,16 @@ public final class SearchTest {
 
     private static void wrongEnemies() {
         ScarArmy x = Checks.first();
-        Checks.due("26: no such enemy", WRONG, () -> Checks.enemies(x, 2, 0, 0, 2, 0));
-        Checks.due("26: no such enemy", WRONG, () -> Checks.enemies(x, -2, 0, 0, 2, 0));
+        Checks.due("26: no such enemy", Checks.WRONG, () -> Checks.enemies(x, 2, 0, 0, 2, 0));
+        Checks.due("26: no such enemy", Checks.WRONG, () -> Checks.enemies(x, -2, 0, 0, 2, 0));
         Checks.due("26: used up", false, () -> x.end(1));
-        Checks.due("26: no such enemy of none", WRONG, () -> Checks.enemies(x, 0));
-        Checks.due("26: half an enemy", WRONG, () -> Checks.enemies(x, -1, 0));
-        Checks.due("26: no place", WRONG, () -> Checks.enemies(x, -1, 12, 0));
-        Checks.due("26: no weapon", WRONG, () -> Checks.enemies(x, -1, 0, 6));
-        Checks.due("26: no weapon", WRONG, () -> Checks.enemies(x, -1, 0, 255));
-        Checks.due("26: no place", WRONG, () -> Checks.enemies(x, -1, 0, 0, 200, 0));
-        Checks.due("26: eleven", WRONG, () -> Checks.enemies(x, -1, new int[22]));
+        Checks.due("26: no such enemy of none", Checks.WRONG, () -> Checks.enemies(x, 0));
+        Checks.due("26: half an enemy", Checks.WRONG, () -> Checks.enemies(x, -1, 0));
+        Checks.due("26: no place", Checks.WRONG, () -> Checks.enemies(x, -1, 12, 0));
+        Checks.due("26: no weapon", Checks.WRONG, () -> Checks.enemies(x, -1, 0, 6));
+        Checks.due("26: no weapon", Checks.WRONG, () -> Checks.enemies(x, -1, 0, 255));
+        Checks.due("26: no place", Checks.WRONG, () -> Checks.enemies(x, -1, 0, 0, 200, 0));
+        Checks.due("26: eleven", Checks.WRONG, () -> Checks.enemies(x, -1, new int[22]));
         Checks.due("26: used up", false, () -> x.end(1));
         Checks.due("26: no fault of a text", -1, x::fault);
         x.days(1);

@@ -3,6 +3,12 @@ import java.util.concurrent.Callable;
 
 /** What the tests share: texts to the tape, answers as words, and the count of wrong ones. */
 final class Checks {
+    static final String OUT = "throws.IndexOutOfBoundsException";
+    static final String WRONG = "throws.IllegalArgumentException";
+    static final String STATE = "throws.IllegalStateException";
+    static final String FULL = "throws.UnsupportedOperationException";
+    static final String NO_SUCH = "throws.NoSuchElementException";
+
     private static int asked = 0;
     private static int wrong = 0;
 
