@@ -1,4 +1,8 @@
+import java.io.IOException;
+import java.io.UncheckedIOException;
 import java.nio.charset.StandardCharsets;
+import java.nio.file.Files;
+import java.nio.file.Path;
 import java.util.concurrent.Callable;
 
 /** What the tests share: texts to the tape, answers as words, and the count of wrong ones. */
@@ -9,18 +13,57 @@ final class Checks {
     static final String FULL = "throws.UnsupportedOperationException";
     static final String NO_SUCH = "throws.NoSuchElementException";
 
+    private static final Path DOCUMENT = Path.of("../shared/DOC.md");
+
+    private static String document = null;
+    private static String sentence = "";
+    private static int askedAhead = 0;
     private static int asked = 0;
     private static int wrong = 0;
 
     private Checks() {
     }
 
+    /** What is asked from here on tests these words, which must stand in the document so. */
+    static void sentence(String words) {
+        endSentence();
+        sentence = words;
+        askedAhead = asked;
+        if (!document().contains(oneLine(words))) {
+            fail("the document does not say: " + words);
+        }
+    }
+
+    private static void endSentence() {
+        if (!sentence.isEmpty() && asked == askedAhead) {
+            fail("nothing was asked of: " + sentence);
+        }
+        sentence = "";
+    }
+
+    private static String document() {
+        try {
+            document = document == null ? oneLine(Files.readString(DOCUMENT)) : document;
+            return document;
+        } catch (IOException e) {
+            throw new UncheckedIOException(e);
+        }
+    }
+
+    private static String oneLine(String text) {
+        return text.replaceAll("\\s+", " ");
+    }
+
+    private static void fail(String what) {
+        wrong++;
+        System.out.println((sentence.isEmpty() ? "" : "[" + sentence + "] ") + what);
+    }
+
     static void due(String what, Object want, Callable<?> call) {
         asked++;
         String got = answer(call);
         if (!got.equals(String.valueOf(want))) {
-            wrong++;
-            System.out.println(what + " answered " + got + ", due is " + want);
+            fail(what + " answered " + got + ", due is " + want);
         }
     }
 
@@ -33,6 +76,7 @@ final class Checks {
     }
 
     static void close() {
+        endSentence();
         System.out.println(asked + " answers, " + wrong + " wrong");
         if (wrong != 0 || asked == 0) {
             System.exit(1);
