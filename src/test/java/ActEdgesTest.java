@@ -23,6 +23,7 @@ public final class ActEdgesTest {
         pensionOfWhom();
         fullPurses();
         latestSixty();
+        logIsGoneBackTo();
         salesOfOneScar();
         buyerAlone();
         draws();
@@ -236,6 +237,19 @@ public final class ActEdgesTest {
         Checks.due("of the undone one nothing is left", 23, () -> x.wound(0, 0, 0, 1, 0));
         Checks.due("told", 0, () -> x.scar(23, 4));
         Checks.due("trades", 0, () -> x.scar(23, 9));
+        ScarArmy y = two(0, 0);
+        y.image();
+        y.wound(2, 2, 0, 2, 1);
+        y.polish(1, 0);
+        y.polish(1, 2);
+        y.hand(1, 0, 0);
+        y.back();
+        Checks.due("behind going back, too", 1, () -> y.wound(3, 3, 0, 3, 1));
+        int[] due = {3, 3, 0, 3, 0, 1, 1, 3, 12, 0, 0};
+        for (int what = 0; what < due.length; what++) {
+            int w = what;
+            Checks.due("scar(1, " + w + ")", due[w], () -> y.scar(1, w));
+        }
     }
 
     private static void daysGoBy() {
@@ -366,6 +380,54 @@ public final class ActEdgesTest {
         }
     }
 
+    /** So many rows were written that the 60 that are known begin anew somewhere in the middle. */
+    private static ScarArmy written(int rows) {
+        ScarArmy x = two(40, 40);
+        x.wound(1, 0, 0, 9, 0);
+        for (int n = 1; n <= rows; n++) {
+            x.hand(0, n % 2, n % 5);
+        }
+        x.end(0);
+        return x;
+    }
+
+    private static List<Integer> log(ScarArmy x) {
+        List<Integer> cells = new ArrayList<>();
+        for (int ago = 0; ago < 60; ago++) {
+            for (int what = 1; what < 5; what++) {
+                cells.add(x.log(ago, what));
+            }
+        }
+        return cells;
+    }
+
+    private static void logIsGoneBackTo() {
+        for (int rows : new int[] {30, 59, 60, 61, 90, 119, 120, 121}) {
+            List<Integer> due = log(written(rows));
+            Checks.sentence("all is as ahead of it (but for the TAPE, fault(), THE IMAGE)");
+            ScarArmy undone = written(rows);
+            for (int i = 1; i <= 12; i++) {
+                undone.hand(0, (rows + i) % 2, i % 3);
+            }
+            Checks.due("another log", true, () -> undone.count(8) == Math.min(60, rows + 12));
+            for (int i = 1; i <= 12; i++) {
+                undone.undo();
+            }
+            Checks.due("undone behind " + rows, due, () -> log(undone));
+            Checks.sentence("THE IMAGE (one) of all may be kept, and gone back to");
+            ScarArmy kept = written(rows);
+            kept.image();
+            for (int i = 1; i <= 70; i++) {
+                kept.hand(0, (rows + i) % 2, i % 3);
+            }
+            kept.back();
+            Checks.due("gone back behind " + rows, due, () -> log(kept));
+            Checks.sentence("how often it was HANDED over by THE LOG.");
+            Checks.due("how often", Math.min(60, rows), () -> kept.led(0, true));
+            Checks.due("how often", Math.min(60, rows), () -> undone.led(0, true));
+        }
+    }
+
     private static void salesOfOneScar() {
         Checks.sentence("that SCAR, if who BEARS it is ALIVE, is HANDED to its BUYER for its PRICE, if there is one and "
                 + "that one has so much: how many sales came about; COINS that were paid.");
@@ -448,7 +510,11 @@ public final class ActEdgesTest {
 
     /** Twenty scars, of which those of a set are borne by one alive, and all others by a dead one. */
     private static ScarArmy twenty(int alive) {
-        ScarArmy x = Checks.with("battle 0 day 0 with 0;man 0;man 0;man 9999");
+        return twenty(alive, 9999);
+    }
+
+    private static ScarArmy twenty(int alive, int coins) {
+        ScarArmy x = Checks.with("battle 0 day 0 with 0;man 0;man 0;man " + coins);
         for (int from = 0; from < SCARS; from += 10) {
             StringBuilder text = new StringBuilder();
             for (int scar = from; scar < from + 10; scar++) {
@@ -500,8 +566,8 @@ public final class ActEdgesTest {
             Checks.due("seed " + seed, 0, () -> but.trial(1, false));
             Checks.due("span leaves the seed", seed, () -> but.seed(1));
         }
-        // each of the six begins with what is now, not with what another one left
-        ScarArmy x = two(0, 4);
+        // coins for one sale: each of the six begins with what is now, not with what another one left
+        ScarArmy x = twenty(-1, 4);
         Checks.due("the same of all six", 1, () -> x.span(1, true));
         Checks.due("the same of all six", 1, () -> x.span(1, false));
     }

@@ -138,6 +138,11 @@ public final class AnswerEdgesTest {
         Checks.due("polished", 1, () -> x.polish(23, 2));
         Checks.due("polished", 1 << 23, () -> x.polished(2));
         Checks.due("the last one", 9, () -> x.scar(23, 6));
+        Checks.due("all of them at once", false, () -> x.his(-1));
+        Checks.due("an enemy of the last one", 512 + 2, () -> Checks.enemies(x, 0, 11, 5));
+        Checks.due("enemies of four", 4, () -> Checks.enemies(x, -1, 0, 0, 1, 1, 2, 2, 3, 3));
+        Checks.due("then of one", 1, () -> Checks.enemies(x, -1, 4, 4));
+        Checks.due("then of none", 0, () -> Checks.enemies(x, -1));
         Checks.law(x, "void");
         Checks.due("all void", (1 << 24) - 1, x::voids);
         Checks.due("no set is his", false, () -> x.his(1 << 23));
@@ -455,6 +460,14 @@ public final class AnswerEdgesTest {
             Checks.due("places " + row[0], row[1], () -> x.battle(0, 6));
             Checks.due("of the other battle", 1, () -> x.battle(1, 6));
         }
+        ScarArmy first = men(1, scar(7, 0, 1, 0) + ";" + scar(7, 0, 1, 0));
+        Checks.due("the first one counts", 2, () -> first.battle(0, 6));
+        first.image();
+        first.wound(7, 0, 0, 1, 0);
+        Checks.due("three", 3, () -> first.battle(0, 6));
+        first.back();
+        Checks.due("two again", 2, () -> first.battle(0, 6));
+        Checks.due("nor whom an enemy means", 1, () -> Checks.enemies(first, 0, 7, 0));
     }
 
     private static void price() {

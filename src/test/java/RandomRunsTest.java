@@ -8,6 +8,9 @@ import java.util.Random;
 
 /** Random runs of at most 512 calls on the class and on the model: every answer must be the same. */
 public final class RandomRunsTest {
+    private static final int LAST_CALL = 512;
+    /** A text of 400 bytes, with what cuts it, reads it and asks for its fault. */
+    private static final int LONGEST_STEP = 24 + 13;
     private static final int RUNS = Integer.getInteger("runs", 600);
     private static final List<String> ACTS = List.of("hand", "hand", "hand", "hand", "polish", "polish",
             "wound", "wound", "days", "market", "market", "widow", "widow", "die");
@@ -55,13 +58,19 @@ public final class RandomRunsTest {
     }
 
     private boolean run() throws Exception {
-        int texts = 1 + below(4);
+        int texts = below(4) == 0 ? 6 : 1 + below(4);
         for (int i = 0; i < texts; i++) {
             if (!text(armyText(i == 0)) || !call("army")) {
                 return false;
             }
         }
-        while (calls < 480) {
+        // now and then near the last day that there is
+        for (int late = below(10) == 0 ? 24 : 0; late > 0; late--) {
+            if (!call("days", 400)) {
+                return false;
+            }
+        }
+        while (calls < LAST_CALL - LONGEST_STEP) {
             int kind = below(100);
             boolean same;
             if (kind < 4) {
@@ -134,15 +143,15 @@ public final class RandomRunsTest {
         switch (name + i) {
             case "end0": return below(60);
             case "feed0": return random.nextInt();
-            case "battle0": case "wound2": return below(Math.max(1, x.count(0)));
+            case "battle0": case "wound2": return below(Math.max(1, y.count(0)));
             case "battle1": return below(7);
             case "man1": return below(8);
             case "scar1": return below(11);
             case "man0": case "who0": case "hand1": case "die0": case "widow0": case "widow1": case "wound4":
             case "largest0": case "betrays0": case "least0": case "gains0": case "after0": case "shared0":
-            case "shared1": return below(Math.max(1, x.count(1)));
+            case "shared1": return below(Math.max(1, y.count(1)));
             case "scar0": case "hand0": case "polish0": case "gains1": case "buyer0": case "hands0":
-            case "led0": return below(Math.max(1, x.count(2)));
+            case "led0": return below(Math.max(1, y.count(2)));
             case "hand2": return below(4) == 0 ? below(2000) : below(30);
             case "polish1": case "polished0": return below(3);
             case "wound0": return below(12);
@@ -193,9 +202,9 @@ public final class RandomRunsTest {
         StringBuilder told = new StringBuilder();
         int n = below(8) == 0 ? below(13) : below(11);
         for (int i = 0; i < n; i++) {
-            if (x.count(2) > 0 && below(8) != 0) {
-                int scar = below(x.count(2));
-                told.append((char) x.scar(scar, 0)).append((char) x.scar(scar, 1));
+            if (y.count(2) > 0 && below(8) != 0) {
+                int scar = below(y.count(2));
+                told.append((char) y.scar(scar, 0)).append((char) y.scar(scar, 1));
             } else {
                 told.append((char) below(wild ? 14 : 12)).append((char) below(wild ? 8 : 6));
             }
@@ -229,9 +238,9 @@ public final class RandomRunsTest {
 
     private String armyText(boolean first) {
         StringBuilder s = new StringBuilder();
-        int battles = x.count(0);
-        int men = x.count(1);
-        int scars = x.count(2);
+        int battles = y.count(0);
+        int men = y.count(1);
+        int scars = y.count(2);
         int lines = below(30) == 0 ? 15 : below(20) == 0 ? 0 : 3 + below(12);
         for (int i = 0; i < lines; i++) {
             int kind = first && i < 5 ? below(2) : below(10);
@@ -322,13 +331,13 @@ public final class RandomRunsTest {
                 : new String[] {"place", "weapon", "battle", "depth", "told", "days", "bearer"}[kind - 3];
     }
 
-    /** All that can be asked, at the end of a run (the calls here go on behind it). */
+    /** What is counted at the end of a run, and anything else up to the last call. */
     private boolean everything() throws Exception {
         boolean same = true;
-        for (int what = -1; what < 12 && calls < 512; what++) {
+        for (int what = -1; what < 12 && calls < LAST_CALL; what++) {
             same = same && call("count", what);
         }
-        for (int i = 0; i < 19 && same; i++) {
+        while (same && calls < LAST_CALL) {
             same = any(methods.get(below(methods.size())));
         }
         return same;

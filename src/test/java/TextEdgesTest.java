@@ -442,6 +442,13 @@ public final class TextEdgesTest {
         law("void if 1000 < 1", 8);
         law("void if 999 + 0 > 999 + 999", -1);
         ScarArmy x = base();
+        String[] sum = {"worth 1 if 999 > 998", "worth 1 if 998 < 999", "worth 1 if 999 < 998 + 2", "worth 1 if 999 + 999 > 998 + 999",
+            "worth 1 if 0 < 1", "worth 1 if 000 < 001", "worth 1 if 999 > 000", "worth 1 if not 999 < 999 and not 0 > 0"};
+        for (String one : sum) {
+            ScarArmy y = base();
+            Checks.law(y, one);
+            Checks.due(one, 1, () -> y.scar(0, 7));
+        }
         String[] laws = {"worth 0", "worth 99", "worth 099", "worth 99;less 98", "worth 98;less 99", "worth 5;less 0"};
         int[] worth = {0, 99, 99, 1, 0, 5};
         for (int i = 0; i < laws.length; i++) {
@@ -557,7 +564,13 @@ public final class TextEdgesTest {
         Checks.due("long and true", 7, () -> x.scar(0, 7));
         Checks.due("twelve lines", 12, () -> Checks.law(x, ahead + sum + "<99"));
         Checks.due("long and false", 0, () -> x.scar(0, 7));
-        String voids = "void;".repeat(11).replace("void", "less 0") + "worth 7 if ";
+        String alone = "void if 1" + "+1".repeat(194) + "#99";
+        Checks.due("400 bytes", 400, alone::length);
+        Checks.law(x, alone.replace('#', '>'));
+        Checks.due("the longest, true", 3, x::voids);
+        Checks.law(x, alone.replace('#', '<'));
+        Checks.due("the longest, false", 0, x::voids);
+        String voids = "less 0;".repeat(11) + "worth 7 if ";
         StringBuilder ands = new StringBuilder("own");
         while (voids.length() + ands.length() + 12 <= 400) {
             ands.append(" and own");
