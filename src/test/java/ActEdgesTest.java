@@ -452,6 +452,12 @@ public final class ActEdgesTest {
         Checks.army(dead, "dead 0");
         Checks.due("a dead one's", 0, () -> dead.trial(30, false));
         Checks.due("a dead one's", 0, () -> dead.market(30));
+        String cutOnAnother = "battle 0 day 0 with 0;man 9;man 9;man 9;scar 0 of 0 in 0 depth 1 on 0 by 1;dead ";
+        ScarArmy cutOnDead = Checks.with(cutOnAnother + 0);
+        Checks.due("cut on a dead one, borne by one alive", 1, () -> cutOnDead.trial(1, false));
+        Checks.due("cut on a dead one, borne by one alive", 4, () -> cutOnDead.trial(1, true));
+        ScarArmy borneByDead = Checks.with(cutOnAnother + 1);
+        Checks.due("cut on one alive, borne by a dead one", 0, () -> borneByDead.trial(1, false));
         ScarArmy buyer = two(9, 9);
         Checks.army(buyer, "dead 1");
         Checks.due("no buyer", 0, () -> buyer.trial(30, false));
